@@ -33,9 +33,9 @@ public final class DitchOpen {
     private final Law[] laws = new Law[7];
     private final Rain[] rains = new Rain[5];
     private final int[] kept = new int[3];
-    private final Weather weather = new Weather();
-    private final Dug stand = new Dug(weather);
-    private final Dug image = new Dug(weather);
+    private final Weather weather;
+    private final Dug stand;
+    private final Dug image;
     private final Trials trials;
     private final Game game;
     private final Staffs staffs;
@@ -51,10 +51,15 @@ public final class DitchOpen {
         for (int i = 0; i < rains.length; i++) {
             rains[i] = new Rain();
         }
-        Dug trial = new Dug(weather);
-        trials = new Trials(stand, trial);
-        game = new Game(stand, trial);
-        staffs = new Staffs(stand, trial);
+        Weather ofAll = new Weather();
+        Dug asItStands = new Dug(ofAll);
+        Dug trial = new Dug(ofAll);
+        weather = ofAll;
+        stand = asItStands;
+        image = new Dug(ofAll);
+        trials = new Trials(asItStands, trial);
+        game = new Game(asItStands, trial);
+        staffs = new Staffs(asItStands, trial);
     }
 
     // ---- TEXTS
@@ -86,26 +91,40 @@ public final class DitchOpen {
     /** Reads the TAPE into the slot behind the last of its sort; false: the TAPE's place is its FAULT. */
     private boolean isRead(int sort) {
         tape.rewind();
-        int slot = kept[sort];
         if (sort == DITCH) {
-            return slot < ditches.length && ditches[slot].readFrom(tape);
+            Ditch slot = ditchSlot(kept[DITCH]);
+            return slot != null && slot.readFrom(tape);
         }
         if (sort == LAW) {
-            return slot < laws.length && laws[slot].readFrom(tape);
+            Law slot = lawSlot(kept[LAW]);
+            return slot != null && slot.readFrom(tape);
         }
-        return slot < rains.length && rains[slot].readFrom(tape);
+        Rain slot = rainSlot(kept[RAIN]);
+        return slot != null && slot.readFrom(tape);
+    }
+
+    private Ditch ditchSlot(int n) {
+        return n >= 0 && n < ditches.length ? ditches[n] : null;
+    }
+
+    private Law lawSlot(int n) {
+        return n >= 0 && n < laws.length ? laws[n] : null;
+    }
+
+    private Rain rainSlot(int n) {
+        return n >= 0 && n < rains.length ? rains[n] : null;
     }
 
     private Ditch findDitch(int n) {
-        return n >= 0 && n < kept[DITCH] && n < ditches.length ? ditches[n] : null;
+        return n < kept[DITCH] ? ditchSlot(n) : null;
     }
 
     private Law findLaw(int n) {
-        return n >= 0 && n < kept[LAW] && n < laws.length ? laws[n] : null;
+        return n < kept[LAW] ? lawSlot(n) : null;
     }
 
     private Rain findRain(int n) {
-        return n >= 0 && n < kept[RAIN] && n < rains.length ? rains[n] : null;
+        return n < kept[RAIN] ? rainSlot(n) : null;
     }
 
     /** The RAIN by which what is dug can be asked; null: no such RAIN, or nothing dug. */
@@ -607,7 +626,7 @@ public final class DitchOpen {
             int had = 0;
             for (int items = 0; items < ITEMS.length(); items++) {
                 int what = ITEMS.indexOf((char) tape.next()) + BED;
-                if (what < BED || what >= reach.length) {
+                if (what < BED) {
                     return true;
                 }
                 if ((had >> what & 1) == 1) {
@@ -624,7 +643,7 @@ public final class DitchOpen {
 
         private static boolean readItem(Tape tape, int[] reach, int what) {
             int value = tape.number(2);
-            if (value == NONE) {
+            if (value == NONE || what < 0 || what >= reach.length || what >= LEAST.length || what >= MOST.length) {
                 return false;
             }
             if (value < LEAST[what] || value > MOST[what]) {
@@ -678,7 +697,7 @@ public final class DitchOpen {
         private final int[] signs = new int[MOST_SIGNS];
         private final int[] numbers = new int[MOST_SIGNS];
         private int size;
-        // Six within one another, two waiting in each and five round them, stay far below this.
+        // Never more than 18 wait: two of each of six within one another, and six round them.
         private final int[] waiting = new int[40];
 
         boolean readFrom(Tape tape) {
@@ -1070,8 +1089,11 @@ public final class DitchOpen {
             size = Math.min(many, reaches.length);
             head = null;
             for (int i = size - 1; i >= 0; i--) {
-                reaches[i].next = head;
-                head = reaches[i];
+                Reach r = reaches[i];
+                if (r != null) {
+                    r.next = head;
+                    head = r;
+                }
             }
         }
 

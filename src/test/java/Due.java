@@ -36,6 +36,23 @@ final class Due {
         }
     }
 
+    /** A new object with one ditch dug by one or two laws (slips null: none), and some rains told. */
+    static DitchOpen dug(String ditch, String flow, String slips, String... rains) {
+        DitchOpen x = new DitchOpen();
+        text(x, 0, ditch);
+        text(x, 1, flow);
+        if (slips != null) {
+            text(x, 1, slips);
+        }
+        for (String rain : rains) {
+            text(x, 2, rain);
+        }
+        if (!x.dig(0, 0, slips == null ? -1 : 1, 5L)) {
+            throw new IllegalStateException("not dug: " + ditch);
+        }
+        return x;
+    }
+
     static int[] fives(String text) {
         int[] five = new int[5];
         for (int i = 0; i < text.length() && i < 20; i++) {
@@ -70,9 +87,5 @@ final class Due {
         int answer = x.fault(sort);
         x.end(0);
         return answer;
-    }
-
-    static String times(String part, int many) {
-        return part.repeat(many);
     }
 }
