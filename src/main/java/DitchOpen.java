@@ -11,6 +11,7 @@ public final class DitchOpen {
     private static final int DITCH = 0;
     private static final int LAW = 1;
     private static final int RAIN = 2;
+    private static final int NO_SUCH_SORT = -2;
     private static final int[] MOST_TEXTS = {4, 6, 4};
 
     private static final int FEWEST_REACHES = 2;
@@ -24,8 +25,8 @@ public final class DitchOpen {
     private static final int MOST_YEARS_SINKING = 30;
     private static final int MOST_HIGHER = 30;
     private static final int MOST_IN_TURN = 4;
-    private static final int MOST_HUNDRED = 99;
-    private static final int MOST_THOUSAND = 999;
+    private static final int TWO_DIGITS = 99;
+    private static final int THREE_DIGITS = 999;
 
     private final Tape tape = new Tape();
     // One slot more than may be kept: a TEXT is read into the slot behind the last that is kept.
@@ -73,14 +74,14 @@ public final class DitchOpen {
     }
 
     public int fault(int sort) {
-        if (!isIn(sort, DITCH, RAIN)) {
-            return -2;
+        if (!isSort(sort)) {
+            return NO_SUCH_SORT;
         }
         return isRead(sort) ? NONE : tape.place();
     }
 
     public int text(int sort) {
-        if (!isIn(sort, DITCH, RAIN) || kept[sort] >= MOST_TEXTS[sort] || !isRead(sort)) {
+        if (!isSort(sort) || kept[sort] >= MOST_TEXTS[sort] || !isRead(sort)) {
             return NONE;
         }
         tape.cutTo(0);
@@ -132,6 +133,10 @@ public final class DitchOpen {
         return stand.isDug() ? findRain(n) : null;
     }
 
+    private boolean isSort(int sort) {
+        return sort >= 0 && sort < kept.length && sort < MOST_TEXTS.length;
+    }
+
     private static boolean isIn(int value, int least, int most) {
         return value >= least && value <= most;
     }
@@ -161,7 +166,7 @@ public final class DitchOpen {
     }
 
     public int count(int what) {
-        if (isIn(what, DITCH, RAIN)) {
+        if (isSort(what)) {
             return kept[what];
         }
         switch (what) {
@@ -192,7 +197,7 @@ public final class DitchOpen {
     }
 
     public int day(int rain) {
-        if (!stand.isDug() || !isIn(rain, 0, MOST_HUNDRED)) {
+        if (!stand.isDug() || !isIn(rain, 0, TWO_DIGITS)) {
             return NONE;
         }
         stand.goDay(rain);
@@ -293,7 +298,7 @@ public final class DitchOpen {
 
     public int every(int rain, int price, int years, int what) {
         Rain told = findRainOnDug(rain);
-        if (told == null || !isIn(price, 0, MOST_HUNDRED) || !isIn(years, 1, 12) || !isIn(what, 0, 1)) {
+        if (told == null || !isIn(price, 0, TWO_DIGITS) || !isIn(years, 1, 12) || !isIn(what, 0, 1)) {
             return NONE;
         }
         return trials.yearsToClean(told, price, years, what == 1);
@@ -312,7 +317,7 @@ public final class DitchOpen {
     // ---- GAME
 
     private static boolean isGame(int price, int kind, int fine) {
-        return isIn(price, 0, MOST_HUNDRED) && isIn(kind, 0, 2) && isIn(fine, 0, MOST_THOUSAND);
+        return isIn(price, 0, TWO_DIGITS) && isIn(kind, 0, 2) && isIn(fine, 0, THREE_DIGITS);
     }
 
     public int has(int rain, int price, int kind, int fine, int cleaners, int owner) {
@@ -330,7 +335,7 @@ public final class DitchOpen {
 
     public int rests(int rain, int price, int kind, int fine, int i) {
         Rain told = findRainOnDug(rain);
-        if (told == null || !isGame(price, kind, fine) || i < NONE) {
+        if (told == null || !isGame(price, kind, fine)) {
             return NONE;
         }
         game.begin(price, kind, fine);
@@ -356,7 +361,7 @@ public final class DitchOpen {
 
     public int where(int rain, int by, boolean open) {
         Rain told = findRainOnDug(rain);
-        if (told == null || !isIn(by, 0, MOST_HUNDRED)) {
+        if (told == null || !isIn(by, 0, TWO_DIGITS)) {
             return NONE;
         }
         return open ? staffs.agreeOpen(told, by) : staffs.shutWhere(told, by);
@@ -375,7 +380,7 @@ public final class DitchOpen {
     public int falls(int reaches, int soil, int width, int flow, int rain, int by) {
         Law law = findLaw(flow);
         Rain told = findRain(rain);
-        if (law == null || told == null || !isIn(by, 0, MOST_HUNDRED)) {
+        if (law == null || told == null || !isIn(by, 0, TWO_DIGITS)) {
             return NONE;
         }
         if (!isIn(reaches, FEWEST_REACHES, MOST_REACHES) || !isIn(soil, CLAY, TURF) || !isIn(width, 1, 9)) {
@@ -393,7 +398,7 @@ public final class DitchOpen {
     public int sinks(int ditch, int rain, int by, int bound) {
         Ditch told = findDitch(ditch);
         Rain days = findRainOnDug(rain);
-        if (told == null || days == null || !isIn(by, 1, 9) || !isIn(bound, 0, MOST_THOUSAND)) {
+        if (told == null || days == null || !isIn(by, 1, 9) || !isIn(bound, 0, THREE_DIGITS)) {
             return NONE;
         }
         return trials.yearsToSink(told, days, by, bound);
@@ -428,7 +433,7 @@ public final class DitchOpen {
     }
 
     public int hit(int bound, int many) {
-        if (!isIn(bound, 0, MOST_THOUSAND) || !isIn(many, 1, 4) || many > stand.reaches()) {
+        if (!isIn(bound, 0, THREE_DIGITS) || !isIn(many, 1, 4) || many > stand.reaches()) {
             return NONE;
         }
         long sets = waysToTake(stand.reaches(), many);
@@ -867,15 +872,19 @@ public final class DitchOpen {
         /** WORTH for a REACH that is so much above the next, on a DAY with so much RAIN. */
         int worth(Reach reach, int above, int rain) {
             int top = 0;
+            // Signs up to here are passed over: the CONDITION of their CLAUSE does not hold.
+            int over = NONE;
             for (int i = 0; i < size && i < signs.length; i++) {
                 int sign = signs[i];
+                if (i <= over) {
+                    continue;
+                }
                 if (sign == ';') {
                     return waiting[0];
                 }
                 if (sign == '?') {
+                    over = waiting[0] == 0 ? numbers[i] : NONE;
                     top = 0;
-                    // Math.max: whatever stands there, the loop never goes back.
-                    i = waiting[0] == 0 ? Math.max(i, numbers[i]) : i;
                     continue;
                 }
                 boolean isLetter = sign >= 'a' && sign <= 'z';
@@ -1794,7 +1803,7 @@ public final class DitchOpen {
         }
 
         boolean put(int reach, int level) {
-            if (reach < 0 || reach >= levels.length || !isIn(level, NONE, MOST_THOUSAND)) {
+            if (reach < 0 || reach >= levels.length || !isIn(level, NONE, THREE_DIGITS)) {
                 return false;
             }
             levels[reach] = level;

@@ -268,6 +268,11 @@ public final class CleanersTest {
         D.due("3, 2, then 0, 1", x.turn(0), 3201);
         x = still("cb0w1f99,cb0w1f12");
         D.due("one owner", x.turn(0), 0);
+        x = still("cb0w1f5,cb0w1o1f5" + ",cb0w1f5o1,cb0w1f5o2,cb0w1o2f5,cb0w1o2f5" + ",cb0w1o3f5".repeat(4));
+        Due.text(x, 2, "0,0,0,0,0");
+        D.due("the last order", x.turn(2), 3210);
+        x = still("cb0w1o3f5,cb0w1o2f5,cb0w1o1f5,cb0w1f5");
+        D.due("the first order", x.turn(0), 123);
         D.due("no such rain", x.turn(2), -1);
         D.due("no such rain", x.turn(-1), -1);
         D.due("five owners", still("cb0w1o4f9,cb0w1f9").turn(0), -1);

@@ -262,6 +262,15 @@ public final class LevelsTest {
         rows(x, 6, 2, 0, 1, 2, 3, 4, 5);
         D.due("seven men", x.notch(7, -1), -1);
         D.due("-1 men", x.notch(-1, -1), -1);
+        // Twenty reaches, and fewer behind them.
+        x = Due.dug("s" + ",s".repeat(19), "y:0", null);
+        Due.text(x, 0, "s,s");
+        x.day(1);
+        rows(x, 6, 4, 0, 1, 4, 8, 12, 16);
+        rows(x, 1, 20, 0);
+        x.dig(1, 0, -1, 0);
+        D.due("three men for two", x.notch(3, -1), -1);
+        rows(x, 2, 0, 0, 1);
         // One row with most of the work leaves room in the others.
         x = Due.dug("so1,so1,so1,s", "y:0", null);
         x.set(1, 9);

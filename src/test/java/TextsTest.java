@@ -11,6 +11,7 @@ public final class TextsTest {
         rainFaults();
         lawFaults();
         text();
+        textBehindFaults();
         reach();
         rain();
         count();
@@ -95,6 +96,17 @@ public final class TextsTest {
         D.due("the last that goes", x.feed(0, 0, 0, 0, 0x00006300), 200);
         D.due("none goes more", x.feed(0x63, 0, 0, 0, 0), -1);
         D.due("zeros still go", x.feed(0, 0, 0, 0, 0), 200);
+        // Wherever the bytes stand, each counts once.
+        for (int shift = 0; shift < 32; shift += 8) {
+            for (int at = 0; at < 5; at++) {
+                int[] five = new int[5];
+                five[at] = 'c' << shift;
+                x.end(200);
+                D.due("one too many", x.feed(five[0], five[1], five[2], five[3], five[4]), -1);
+                x.end(199);
+                D.due("one that goes", x.feed(five[0], five[1], five[2], five[3], five[4]), 200);
+            }
+        }
     }
 
     /** Promise 3. */
@@ -279,6 +291,29 @@ public final class TextsTest {
         Due.feed(x, "5");
         D.due("a fifth rain", x.text(2), -1);
         D.due("counts", x.count(0) * 100 + x.count(1) * 10 + x.count(2), 464);
+    }
+
+    /** What a fault was asked of leaves nothing behind in the text that is kept next. */
+    private static void textBehindFaults() {
+        String[] before = {"y:9", "y:9;y:8;y:7;y:6;y:5;y:4", "y:1=1?9+", "y:!!1=1&2=2|3=3?[9"};
+        String[] after = {"y:5", "y:1=2?7", "y:1=2?7;y:1=1?5"};
+        int[] due = {5, 0, 5};
+        for (String b : before) {
+            for (int i = 0; i < after.length; i++) {
+                DitchOpen x = new DitchOpen();
+                Due.text(x, 0, "cb90w9,cb0w9");
+                Due.fault(x, 0, "cb1o5f1,cb1o5f1,cb1o5f1,c");
+                Due.fault(x, 1, b);
+                Due.text(x, 1, after[i]);
+                Due.fault(x, 1, b);
+                x.dig(0, 0, -1, 0);
+                x.day(90);
+                D.due(b + ", then " + after[i], x.at(0, 5), due[i]);
+                Due.fault(x, 2, "1,2,3,");
+                D.due("a rain", Due.text(x, 2, "4"), 0);
+                D.due("of one day", x.rain(0, -1) * 10 + x.rain(0, 0), 14);
+            }
+        }
     }
 
     /** Promise 6. */
