@@ -185,6 +185,13 @@ public final class CleanersTest {
         rest(x, 2, 2, 0, 7);
         rest(x, 1, 2, 0, 0);
         rest(x, 4, 1, 1, 0, 1, 2, 3, 4, 5, 6, 7);
+        // A reed alone makes no spades, but by this law it keeps the water.
+        DitchOpen y = Due.dug("cb10w1f12,cb0w1o1f2", "y:r=0?99;y:0", null, "5");
+        y.set(1, 0);
+        y.set(2, 1);
+        y.day(0);
+        rest(y, 1, 0, 0, 3);
+        D.due("best without reeds", y.best(0, 1, 0, 0), 3);
         // Owners 1 to 4 have no reaches: all the same whether they clean.
         D.due("six owners", still("cb0w1f5,cb0w1o5f5").rests(0, 5, 0, 0, -1), 16);
     }

@@ -96,6 +96,10 @@ public final class TextsTest {
         D.due("the last that goes", x.feed(0, 0, 0, 0, 0x00006300), 200);
         D.due("none goes more", x.feed(0x63, 0, 0, 0, 0), -1);
         D.due("zeros still go", x.feed(0, 0, 0, 0, 0), 200);
+        x.end(197);
+        D.due("four for three", x.feed(0, 0x63636363, 0, 0, 0), -1);
+        x.end(196);
+        D.due("four for four", x.feed(0, 0, 0x63636363, 0, 0), 200);
         // Wherever the bytes stand, each counts once.
         for (int shift = 0; shift < 32; shift += 8) {
             for (int at = 0; at < 5; at++) {
