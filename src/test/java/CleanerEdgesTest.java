@@ -29,30 +29,17 @@ public final class CleanerEdgesTest {
         E.finish("CleanerEdgesTest", 17, 18, 19, 20, 21, 22, 23, 24, 25, 26);
     }
 
-    /** An image, a staff and a text on the tape, so that a change of them would be seen. */
-    private static DitchOpen kept(DitchOpen x) {
-        x.image();
-        x.staff(0, 7);
-        Due.feed(x, "c,cb7");
-        return x;
-    }
-
     /**
      * Nothing flows; each of three reaches has mud 9 and water 1, level 10, fields 5, 12, 9 of owners 0, 1, 2;
      * two dry days (0), one with a rain of 1 (1).
      */
     private static DitchOpen still() {
-        return kept(Made.still("cb0w1o0f5,cb0w1o1f12,cb0w1o2f9", "0,0", "1"));
-    }
-
-    /** As still, not dug. */
-    private static DitchOpen told() {
-        return Made.told();
+        return Made.kept(Made.still("cb0w1o0f5,cb0w1o1f12,cb0w1o2f9", "0,0", "1"));
     }
 
     /** Owner 0 at the head is wet by a rain of 4 (0) unless owner 1 cleans its mud of 9; never by a dry day (1). */
     private static DitchOpen dammed() {
-        return kept(Made.dammed());
+        return Made.kept(Made.dammed());
     }
 
     // ---- Promise 17
@@ -67,8 +54,8 @@ public final class CleanerEdgesTest {
         E.asks(CleanerEdgesTest::still, -1, 4, 5, 0, -1, (x, v) -> x.tried(0, 0, v));
         E.changesNothing("owner 0", CleanerEdgesTest::still, 2, x -> x.tried(0, 0, 0));
         E.of(17, "NONE: nothing dug");
-        E.refused("tried(0, 0, 0)", CleanerEdgesTest::told, -1, x -> x.tried(0, 0, 0));
-        E.refused("tried(0, 0, -1)", CleanerEdgesTest::told, -1, x -> x.tried(0, 0, -1));
+        E.refused("tried(0, 0, 0)", Made::told, -1, x -> x.tried(0, 0, 0));
+        E.refused("tried(0, 0, -1)", Made::told, -1, x -> x.tried(0, 0, -1));
     }
 
     private static void triedOwners() {
@@ -102,7 +89,7 @@ public final class CleanerEdgesTest {
         E.asks(CleanerEdgesTest::still, 0, 2, 5, 0, HIDDEN, (x, v) -> x.costs(0, 0, v));
         E.refused("NONE is not all", CleanerEdgesTest::still, HIDDEN, x -> x.costs(0, 0, -1));
         E.of(18, "HIDDEN: nothing dug");
-        E.refused("costs(0, 0, 0)", CleanerEdgesTest::told, HIDDEN, x -> x.costs(0, 0, 0));
+        E.refused("costs(0, 0, 0)", Made::told, HIDDEN, x -> x.costs(0, 0, 0));
         E.of(18, "that one's HARM more if all but the first CLEAN, less that if all do");
         E.changesNothing("1 to 0", CleanerEdgesTest::dammed, 1, x -> x.costs(0, 1, 0));
         E.changesNothing("0 to 1", CleanerEdgesTest::dammed, 0, x -> x.costs(0, 0, 1));
@@ -110,17 +97,8 @@ public final class CleanerEdgesTest {
         E.changesNothing("1 to 0, a dry day", CleanerEdgesTest::dammed, 0, x -> x.costs(1, 1, 0));
         E.of(18, "HARM by its not CLEANING below that by its CLEANING");
         // Owner 1's mud of 27 holds the head's water back: without it the last reach stands at 15, with it at 10.
-        DitchOpen x = Due.dug("tb30w1f99,tb10w1o1f99,tb0w1o2f12", "y:99", null, "2");
-        x.set(1, 9);
-        for (int day = 0; day < 3; day++) {
-            for (int reach = 0; reach < 3; reach++) {
-                x.shut(reach, true);
-            }
-            x.day(1);
-        }
-        x.set(1, 0);
-        x.shut(0, false);
-        x.shut(1, false);
+        DitchOpen x = Made.heldBack("tb30w1f99,tb10w1o1f99,tb0w1o2f12", 3, 1, "2");
+        x.shut(2, true);
         E.due("1 to 2", x.costs(0, 1, 2), -1);
         E.due("1 to 1", x.costs(0, 1, 1), 0);
         E.due("0 to 2", x.costs(0, 0, 2), 0);
@@ -132,7 +110,7 @@ public final class CleanerEdgesTest {
         E.of(19, "NONE: no such RAIN");
         E.asks(CleanerEdgesTest::dammed, 0, 1, 1, 0, -1, DitchOpen::first);
         E.of(19, "NONE: nothing dug");
-        E.refused("first(0)", CleanerEdgesTest::told, -1, x -> x.first(0));
+        E.refused("first(0)", Made::told, -1, x -> x.first(0));
         E.of(19, "the OWNER (0 .. the greatest told)");
         for (int owner = 0; owner <= 5; owner++) {
             DitchOpen x = Made.still("cb0w1o" + owner + "f9,cb0w1o" + owner + "f99", "0,0");
@@ -156,7 +134,7 @@ public final class CleanerEdgesTest {
     private static DitchOpen rising() {
         DitchOpen x = Due.dug("cb0w9f15,cb0w9f15", "y:0", null, "1,1,1", "1");
         x.set(1, 9);
-        return kept(x);
+        return Made.kept(x);
     }
 
     private static void when() {
@@ -166,8 +144,8 @@ public final class CleanerEdgesTest {
         E.of(20, "NONE: no such what");
         E.asks(CleanerEdgesTest::rising, 0, 1, 1, 2, -1, (x, v) -> x.when(0, v));
         E.of(20, "NONE: nothing dug");
-        E.refused("when(0, 0)", CleanerEdgesTest::told, -1, x -> x.when(0, 0));
-        E.refused("when(0, 1)", CleanerEdgesTest::told, -1, x -> x.when(0, 1));
+        E.refused("when(0, 0)", Made::told, -1, x -> x.when(0, 0));
+        E.refused("when(0, 1)", Made::told, -1, x -> x.when(0, 1));
     }
 
     private static void whenTies() {
@@ -215,7 +193,7 @@ public final class CleanerEdgesTest {
             E.asks(CleanerEdgesTest::dammed, 0, -8, 999, most, HIDDEN, (x, v) -> x.has(0, 8, asked, v, 0, 0));
         }
         E.of(21, "HIDDEN: nothing dug");
-        E.refused("has", CleanerEdgesTest::told, HIDDEN, x -> x.has(0, 8, 0, 0, 0, 0));
+        E.refused("has", Made::told, HIDDEN, x -> x.has(0, 8, 0, 0, 0, 0));
     }
 
     private static void hasEnds() {
@@ -233,6 +211,22 @@ public final class CleanerEdgesTest {
             E.due("one more cleans", x.has(0, 1, 0, 0, all + 1, greatest), HIDDEN);
             E.due("one more is asked", x.has(0, 1, 0, 0, 0, greatest + 1), HIDDEN);
         }
+        E.of(21, "MUD of 1, REEDS of 1: who CLEANS them");
+        DitchOpen little = Due.dug("cb10w9f10,cb0w9o1f99", "y:0", null, "0");
+        little.day(1);
+        E.due("mud 1: one has harm", little.has(0, 5, 0, 0, 0, 0), -5);
+        E.due("mud 1: it is a spade", little.has(0, 5, 0, 0, 1, 0), -1);
+        E.due("mud 1: the other's is not", little.has(0, 5, 0, 0, 2, 0), -5);
+        E.due("mud 1: both", little.has(0, 5, 0, 0, 3, 0), -1);
+        E.due("mud 1: who cleans is at rest", little.rests(0, 5, 0, 0, 0), 1);
+        E.due("mud 1: one set", little.rests(0, 5, 0, 0, -1), 1);
+        little = Due.dug("cb10w1f12,cb0w1o1f99", "y:r=0?99;y:0", null, "5");
+        little.set(1, 0);
+        little.set(2, 1);
+        little.day(0);
+        E.due("reeds 1: they keep the water", little.has(0, 5, 0, 0, 0, 0), -5);
+        E.due("reeds 1: no spade, no harm", little.has(0, 5, 0, 0, 1, 0), 0);
+        E.due("reeds 1: one at rest cleans", little.rests(0, 5, 0, 0, 0), 1);
         E.of(21, "less HARM times PRICE, less SPADES if it CLEANS");
         E.changesNothing("it does not", CleanerEdgesTest::still, -2 * 7, x -> x.has(0, 7, 0, 0, 6, 0));
         E.changesNothing("it does", CleanerEdgesTest::still, -9, x -> x.has(0, 7, 0, 0, 1, 0));
@@ -293,8 +287,8 @@ public final class CleanerEdgesTest {
         E.asks(CleanerEdgesTest::dammed, -1, 2, 1, 3, -1, (x, v) -> x.rests(0, 10, 1, 9, v));
         E.changesNothing("the first", CleanerEdgesTest::dammed, 1, x -> x.rests(0, 10, 1, 9, 0));
         E.of(22, "NONE: nothing dug");
-        E.refused("how many", CleanerEdgesTest::told, -1, x -> x.rests(0, 10, 0, 0, -1));
-        E.refused("the first", CleanerEdgesTest::told, -1, x -> x.rests(0, 10, 0, 0, 0));
+        E.refused("how many", Made::told, -1, x -> x.rests(0, 10, 0, 0, -1));
+        E.refused("the first", Made::told, -1, x -> x.rests(0, 10, 0, 0, 0));
     }
 
     private static void rest(DitchOpen x, String why, int price, int kind, int fine, int... sets) {
@@ -318,7 +312,7 @@ public final class CleanerEdgesTest {
         x = Made.still("cb0w1f5,cb0w1o1f5", "0,0,0,0,0,0,0,0,0");
         rest(x, "price 1, nine days: as much", 1, 0, 0, 0, 1, 2, 3);
         E.of(22, "AT REST: none of four sets");
-        DitchOpen none = Made.dammedAt("tb1w1o0f5,tb0w1o0f1,tb0w1o1f6", 3, "7");
+        DitchOpen none = Made.heldBack("tb1w1o0f5,tb0w1o0f1,tb0w1o1f6", 1, 3, "7");
         int[][] has = {{-20, -10}, {-38, -10}, {-20, -9}, {-18, -19}};
         for (int set = 0; set < 4; set++) {
             E.due("what 0 has by " + set, none.has(0, 10, 0, 0, set, 0), has[set][0]);
@@ -349,7 +343,7 @@ public final class CleanerEdgesTest {
         E.of(23, "NONE: fine 0 .. 999");
         E.asks(CleanerEdgesTest::dammed, 0, 0, 999, 3, -1, (x, v) -> x.best(0, 1, 1, v));
         E.of(23, "NONE: nothing dug");
-        E.refused("best", CleanerEdgesTest::told, -1, x -> x.best(0, 10, 0, 0));
+        E.refused("best", Made::told, -1, x -> x.best(0, 10, 0, 0));
     }
 
     private static void bestTies() {
@@ -434,8 +428,8 @@ public final class CleanerEdgesTest {
         E.asks(CleanerEdgesTest::steep, 0, 1, 99, 3, -1, (x, v) -> x.where(0, v, false));
         E.asks(CleanerEdgesTest::steep, 0, 0, 99, 1, -1, (x, v) -> x.where(0, v, true));
         E.of(25, "NONE: nothing dug");
-        E.refused("shut", CleanerEdgesTest::told, -1, x -> x.where(0, 0, false));
-        E.refused("open", CleanerEdgesTest::told, -1, x -> x.where(0, 0, true));
+        E.refused("shut", Made::told, -1, x -> x.where(0, 0, false));
+        E.refused("open", Made::told, -1, x -> x.where(0, 0, true));
     }
 
     private static void whereBounds() {
@@ -491,8 +485,8 @@ public final class CleanerEdgesTest {
         E.asks(CleanerEdgesTest::steep, -1, 5, 1, 5, -1, (x, v) -> x.off(0, v));
         E.changesNothing("the head", CleanerEdgesTest::steep, 0, x -> x.off(0, 0));
         E.of(26, "NONE: nothing dug");
-        E.refused("off(0, 0)", CleanerEdgesTest::told, -1, x -> x.off(0, 0));
-        E.refused("off(0, -1)", CleanerEdgesTest::told, -1, x -> x.off(0, -1));
+        E.refused("off(0, 0)", Made::told, -1, x -> x.off(0, 0));
+        E.refused("off(0, -1)", Made::told, -1, x -> x.off(0, -1));
         E.of(26, "how much all STAFFS are off together: none, below, above");
         DitchOpen x = steep();
         for (int level = 8; level <= 12; level++) {

@@ -17,30 +17,9 @@ public final class CleanersTest {
         D.finish("CleanersTest");
     }
 
-    /** Nothing flows; each reach has mud 9 and water 1, level 10; two dry days (0), one wet one (1). */
+    /** Two dry days (0), one wet one (1). */
     private static DitchOpen still(String ditch) {
-        DitchOpen x = Due.dug(ditch, "y:0", null, "0,0", "1");
-        x.set(1, 9);
-        x.day(1);
-        x.set(1, 0);
-        return x;
-    }
-
-    /**
-     * The head (of owner 0) is clean, with water 1 and its field at 3; behind it is mud 9 of owner 1.
-     * By a rain of 4 (0) the head is wet unless owner 1 cleans; by a dry day (1) never.
-     */
-    private static DitchOpen dammed() {
-        DitchOpen x = Due.dug("cb0w1f3,cb0w1o1f99", "y:99", null, "4", "0");
-        x.set(1, 9);
-        x.shut(0, true);
-        x.shut(1, true);
-        x.day(1);
-        x.shut(0, false);
-        x.shut(1, false);
-        x.set(1, 0);
-        x.clean(0);
-        return x;
+        return Made.still(ditch, "0,0", "1");
     }
 
     /** Promise 17. */
@@ -57,7 +36,7 @@ public final class CleanersTest {
         D.due("of 1", x.tried(0, 0, 1), 0);
         D.due("of 2", x.tried(0, 4, 2), 0);
         D.due("of 5", x.tried(0, 0, 5), 0);
-        x = dammed();
+        x = Made.dammed();
         D.due("dammed", x.tried(0, 0, 0), 1);
         D.due("its own cleaning does not help", x.tried(0, 1, 0), 1);
         D.due("the other's does", x.tried(0, 2, 0), 0);
@@ -72,7 +51,7 @@ public final class CleanersTest {
 
     /** Promise 18. */
     private static void costs() {
-        DitchOpen x = dammed();
+        DitchOpen x = Made.dammed();
         D.due("1 to 0", x.costs(0, 1, 0), 1);
         D.due("0 to 1", x.costs(0, 0, 1), 0);
         D.due("0 to itself", x.costs(0, 0, 0), 0);
@@ -90,14 +69,14 @@ public final class CleanersTest {
 
     /** Promise 19. */
     private static void first() {
-        D.due("1 ahead of 0", dammed().first(0), 1);
-        D.due("all alike", dammed().first(1), 0);
+        D.due("1 ahead of 0", Made.dammed().first(0), 1);
+        D.due("all alike", Made.dammed().first(1), 0);
         D.due("0 and 2 alike", still("cb0w1f5,cb0w1o1f12,cb0w1o2f9").first(0), 0);
         D.due("two reaches", still("cb0w1f5,cb0w1o1f12,cb0w1o2f9,cb0w1o2f9").first(0), 2);
         D.due("one without reaches", still("cb0w1o2f12,cb0w1o2f12").first(0), 0);
         D.due("the greatest told", still("cb0w1o5f2,cb0w1o5f12").first(0), 5);
-        D.due("no such rain", dammed().first(2), -1);
-        D.due("no such rain", dammed().first(-1), -1);
+        D.due("no such rain", Made.dammed().first(2), -1);
+        D.due("no such rain", Made.dammed().first(-1), -1);
     }
 
     /** Promise 20. */
@@ -121,7 +100,7 @@ public final class CleanersTest {
 
     /** Promise 21. */
     private static void has() {
-        DitchOpen x = dammed();
+        DitchOpen x = Made.dammed();
         D.due("harm times price", x.has(0, 8, 0, 0, 0, 0), -8);
         D.due("price 0", x.has(0, 0, 0, 0, 0, 0), 0);
         D.due("no harm, no spades", x.has(0, 8, 0, 0, 2, 0), 0);
@@ -163,7 +142,7 @@ public final class CleanersTest {
 
     /** Promise 22. */
     private static void rests() {
-        DitchOpen x = dammed();
+        DitchOpen x = Made.dammed();
         // Owner 0 has nothing to clean: all the same to it without a fine.
         rest(x, 10, 0, 0, 0, 1);
         rest(x, 10, 1, 8, 1);
@@ -198,7 +177,7 @@ public final class CleanersTest {
 
     /** Promise 23. */
     private static void best() {
-        DitchOpen x = dammed();
+        DitchOpen x = Made.dammed();
         D.due("harm is cheaper", x.best(0, 8, 0, 0), 0);
         D.due("alike: the lowest", x.best(0, 9, 0, 0), 0);
         D.due("cleaning is cheaper", x.best(0, 10, 0, 0), 2);
@@ -288,7 +267,7 @@ public final class CleanersTest {
 
     /** Whatever is tried, the ditch stands as it stood. */
     private static void apart() {
-        DitchOpen x = dammed();
+        DitchOpen x = Made.dammed();
         x.tried(0, 3, -1);
         x.costs(0, 0, 1);
         x.first(0);

@@ -459,6 +459,16 @@ public final class DayEdgesTest {
                 }
             }
         }
+        String[] holds = {"1=1", "1<2", "2>1", "!1=2", "(1=1)"};
+        String[] not = {"1=2", "2<1", "1>2", "!1=1", "(1=2)"};
+        for (int a = 0; a < 5; a++) {
+            for (int b = 0; b < 5; b++) {
+                E.due(holds[a] + " & " + holds[b], head("y:" + holds[a] + "&" + holds[b] + "?1"), 1);
+                E.due(holds[a] + " & " + not[b], head("y:" + holds[a] + "&" + not[b] + "?1"), 0);
+                E.due(not[a] + " | " + holds[b], head("y:" + not[a] + "|" + holds[b] + "?1"), 1);
+                E.due(not[a] + " | " + not[b], head("y:" + not[a] + "|" + not[b] + "?1"), 0);
+            }
+        }
         E.of(10, "six within one another, asked");
         E.due("[", head("y:[[[[[[2+3]*2]-1]*2]+1]-4]"), 15);
         E.due("(", head("y:((((((1=1))))))?9;y:4"), 9);
@@ -759,6 +769,10 @@ public final class DayEdgesTest {
         E.due("by no other", x.owner(0, 1), 0);
         x.dig(0, 0, -1, 5);
         E.due("since then none", x.owner(5, 1), 0);
+        x.day(9);
+        E.due("one of mud", x.clean(0), 1);
+        E.due("spent by the least owner", x.owner(0, 1), 1);
+        E.due("by no other", x.owner(5, 1), 0);
     }
 
     // ---- Promise 15

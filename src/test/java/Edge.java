@@ -55,6 +55,14 @@ final class Edge {
         changesNothing(what + " (refused)", made, refusal, call);
     }
 
+    /** The call leaves its object as it was, and answers the same again. */
+    void apart(String what, Supplier<DitchOpen> made, Call call) {
+        DitchOpen asked = made.get();
+        long answer = call.on(asked);
+        due(what + " again", call.on(asked), answer);
+        changesNothing(what, made, answer, call);
+    }
+
     /** Refused beside least .. most and far from it. */
     void refusedBeside(Supplier<DitchOpen> made, int least, int most, long refusal, With call) {
         int[] wrong = {Integer.MIN_VALUE, least - 1, most + 1, Integer.MAX_VALUE};

@@ -22,13 +22,6 @@ public final class FormEdgesTest {
         E.finish("FormEdgesTest", 27, 28, 29, 30, 41, 42);
     }
 
-    private static DitchOpen kept(DitchOpen x) {
-        x.image();
-        x.staff(0, 7);
-        Due.feed(x, "c,cb7");
-        return x;
-    }
-
     // ---- Promise 27
 
     /** Nothing flows by law 0, all goes by law 1; rains of a day with 1, and of a day with none. */
@@ -36,7 +29,7 @@ public final class FormEdgesTest {
         DitchOpen x = Due.dug("cb9w1o3f9,tb0w2f3", "y:0", "y:99", "1", "0");
         x.set(1, 9);
         x.day(7);
-        return kept(x);
+        return Made.kept(x);
     }
 
     private static void fallsRefused() {
@@ -171,7 +164,7 @@ public final class FormEdgesTest {
         x.set(1, 3);
         x.shut(0, true);
         x.day(3);
-        return kept(x);
+        return Made.kept(x);
     }
 
     private static void sandsRefused() {
@@ -243,7 +236,7 @@ public final class FormEdgesTest {
     private static DitchOpen sinking() {
         DitchOpen x = Due.dug("cb10w9f20,cb10w9f20", "y:0", null, "1", "1,0");
         Due.text(x, 0, "cb0w9f30,cb0w9f99");
-        return kept(x);
+        return Made.kept(x);
     }
 
     private static void sinksRefused() {
@@ -253,6 +246,8 @@ public final class FormEdgesTest {
         E.asks(FormEdgesTest::sinking, 0, 20, 1, 20, -1, (x, v) -> x.sinks(0, v, 1, 0));
         E.of(29, "so much 1 .. 9");
         E.asks(FormEdgesTest::sinking, 1, 20, 9, 3, -1, (x, v) -> x.sinks(0, 0, v, 0));
+        // Wet without sinking, too.
+        E.asks(() -> Made.kept(Due.dug("cb0f0,cb0f0", "y:0", null, "1")), 1, 1, 9, 1, -1, (x, v) -> x.sinks(0, 0, v, 0));
         E.of(29, "a bound 0 .. 999");
         E.asks(FormEdgesTest::sinking, 0, 20, 999, -1, -1, (x, v) -> x.sinks(0, 0, 1, v));
         E.of(29, "NONE: nothing dug");
@@ -314,7 +309,7 @@ public final class FormEdgesTest {
         DitchOpen x = Due.dug("cb10w1f12,cb10w1o1f30", "y:0", null, "8", "24", "25");
         Due.text(x, 0, "cb10w1o2f5,cb10w1o5f6");
         x.day(9);
-        return kept(x);
+        return Made.kept(x);
     }
 
     private static void raisedRefused() {

@@ -39,14 +39,7 @@ final class Made {
         return x;
     }
 
-    /** As dug, but the tape is empty. */
-    static DitchOpen dugAndEmpty() {
-        DitchOpen x = dug();
-        x.end(0);
-        return x;
-    }
-
-    /** Nothing flows; each reach has mud 9 and water 1, a staff stands at none; silt is 0 then. */
+    /** Nothing flows; each reach has mud 9 and water 1; silt is 0 then. */
     static DitchOpen still(String ditch, String... rains) {
         DitchOpen x = Due.dug(ditch, "y:0", null, rains);
         x.set(1, 9);
@@ -60,30 +53,35 @@ final class Made {
      * By a rain of 4 (0) the head is wet unless owner 1 cleans; by a dry day (1) never.
      */
     static DitchOpen dammed() {
-        DitchOpen x = Due.dug("cb0w1f3,cb0w1o1f99", "y:99", null, "4", "0");
-        x.set(1, 9);
-        x.shut(0, true);
-        x.shut(1, true);
-        x.day(1);
-        x.shut(0, false);
-        x.shut(1, false);
-        x.set(1, 0);
+        DitchOpen x = heldBack("cb0w1f3,cb0w1o1f99", 1, 1, "4", "0");
         x.clean(0);
         return x;
     }
 
-    /** Each reach has mud 9 and so much water, and all are open; silt is 0 then. */
-    static DitchOpen dammedAt(String ditch, int water, String... rains) {
+    /** All shut while it rains so much on so many days with a silt of 9, then all open; silt is 0 then. */
+    static DitchOpen heldBack(String ditch, int days, int rain, String... rains) {
         DitchOpen x = Due.dug(ditch, "y:99", null, rains);
         x.set(1, 9);
-        for (int reach = 0; reach < x.count(4); reach++) {
-            x.shut(reach, true);
+        shutAll(x, true);
+        for (int day = 0; day < days; day++) {
+            x.day(rain);
         }
-        x.day(water);
-        for (int reach = 0; reach < x.count(4); reach++) {
-            x.shut(reach, false);
-        }
+        shutAll(x, false);
         x.set(1, 0);
+        return x;
+    }
+
+    private static void shutAll(DitchOpen x, boolean is) {
+        for (int reach = 0; reach < x.count(4); reach++) {
+            x.shut(reach, is);
+        }
+    }
+
+    /** The same with an image, a staff and a text on the tape, so that a change of them would be seen. */
+    static DitchOpen kept(DitchOpen x) {
+        x.image();
+        x.staff(0, 7);
+        Due.feed(x, "c,cb7");
         return x;
     }
 }

@@ -146,6 +146,11 @@ public final class TextEdgesTest {
         E.due("127 at the highest", fed("").feed(FAR, 0, 0, 0, 0), 4);
         E.due("four of 255", fed("").feed(-1, 0, 0, 0, 0), 4);
         E.due("four of 128", fed("").feed(0x80808080, 0, 0, 0, 0), 4);
+        for (int b = 1; b < 256; b++) {
+            E.due(b + " alone", fed("").feed(b, 0, 0, 0, 0), 1);
+            E.due(b + " for one place", ofLength(199).feed(0, 0, 0, 0, b << 24), 200);
+            E.due(b + " too many", ofLength(200).feed(0, 0, b << 8, 0, 0), -1);
+        }
         for (int sort = 0; sort < 3; sort++) {
             x = fed("");
             x.feed(-1, 0, 0, 0, 0);

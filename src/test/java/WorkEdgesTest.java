@@ -30,20 +30,13 @@ public final class WorkEdgesTest {
         E.finish("WorkEdgesTest", 31, 32, 33, 34, 35, 36, 37, 38, 39, 40);
     }
 
-    private static DitchOpen kept(DitchOpen x) {
-        x.image();
-        x.staff(0, 7);
-        Due.feed(x, "c,cb7");
-        return x;
-    }
-
     // ---- Promise 31
 
     /** Mud 9 a year in two reaches, wet above 15: by a rain of one day (0), of two (1). */
     private static DitchOpen rising() {
         DitchOpen x = Due.dug("cb0w9f15,cb0w9f15", "y:0", null, "1", "1,0");
         x.set(1, 9);
-        return kept(x);
+        return Made.kept(x);
     }
 
     private static void everyRefused() {
@@ -101,7 +94,7 @@ public final class WorkEdgesTest {
 
     /** Level 10 each, wet above 5 until they are cleaned; owner 2 has two; dry days: 1, 2, 3 and 4. */
     private static DitchOpen orders() {
-        return kept(Made.still("cb0w1f5,cb0w1f5o1,cb0w1f5o2,cb0w1f5o2", "0", "0,0", "0,0,0", "0,0,0,0"));
+        return Made.kept(Made.still("cb0w1f5,cb0w1f5o1,cb0w1f5o2,cb0w1f5o2", "0", "0,0", "0,0,0", "0,0,0,0"));
     }
 
     private static void orderRefused() {
@@ -148,7 +141,7 @@ public final class WorkEdgesTest {
         int[] due = {0, 10, 201, 3012, -1, -1};
         for (int greatest = 0; greatest <= 5; greatest++) {
             String ditch = "cb0w1f5o" + greatest + ",cb0w1f5o" + greatest;
-            E.changesNothing(greatest + 1 + " owners", () -> kept(Made.still(ditch, "0,0,0,0,0,0")), due[greatest],
+            E.changesNothing(greatest + 1 + " owners", () -> Made.kept(Made.still(ditch, "0,0,0,0,0,0")), due[greatest],
                 x -> x.turn(0));
         }
     }
@@ -169,6 +162,13 @@ public final class WorkEdgesTest {
         E.due("3, 2, 1, 0", x.turn(0), 3210);
         x = Made.still("cb0w1f5,cb0w1f5,cb0w1f5o3,cb0w1f99o1", "0,0,0,0");
         E.due("0, 3, then 1, 2", x.turn(0), 312);
+        E.of(33, "each OWNER once");
+        // Owner 0's mud of 27 keeps the head's water from owner 1's field: 1 twice would bring no harm, 1 and 0 bring 1.
+        x = Made.heldBack("tb30w1o1f99,tb10w1f99,tb0w1o1f12", 3, 1, "2,0");
+        x.shut(2, true);
+        E.due("1, 0", x.turn(0), 10);
+        E.due("harm then", x.order(0, true), 1);
+        E.due("harm by 0, 1", x.order(0, false), 2);
         E.of(33, "DAYS fewer than OWNERS");
         x = Made.still("cb0w1f5o3,cb0w1f5o3,cb0w1f5o2,cb0w1f99", "0", "0,0", "0,0,0");
         E.due("one day: 3, then the least", x.turn(0), 3012);
@@ -183,7 +183,7 @@ public final class WorkEdgesTest {
         DitchOpen x = Due.dug("tb10w1,sb0w1", "y:9", null, "3", "0");
         x.set(1, 3);
         x.day(3);
-        return kept(x);
+        return Made.kept(x);
     }
 
     private static void whoseRefused() {
@@ -229,7 +229,7 @@ public final class WorkEdgesTest {
         for (int day = 0; day < days; day++) {
             x.day(day < 2 ? 1 : 0);
         }
-        return kept(x);
+        return Made.kept(x);
     }
 
     private static void workRefused() {
@@ -265,7 +265,7 @@ public final class WorkEdgesTest {
     private static DitchOpen ones(int reaches) {
         DitchOpen x = Due.dug("s" + ",s".repeat(reaches - 1), "y:0", null, "0");
         x.day(1);
-        return kept(x);
+        return Made.kept(x);
     }
 
     private static void notchRefused() {
@@ -339,7 +339,7 @@ public final class WorkEdgesTest {
         x.set(1, 9);
         x.day(1);
         x.clean(1);
-        return kept(x);
+        return Made.kept(x);
     }
 
     private static void hitRefused() {
@@ -412,7 +412,7 @@ public final class WorkEdgesTest {
         }
         DitchOpen x = Due.dug(ditch.toString(), "y:0", null, "0");
         x.day(0);
-        return kept(x);
+        return Made.kept(x);
     }
 
     private static void longestRefused() {
@@ -455,7 +455,7 @@ public final class WorkEdgesTest {
 
     /** Levels 19 on both days of rain 0, 35 behind rain 1, 36 behind rain 2, as nothing flows. */
     private static DitchOpen banked() {
-        return kept(Due.dug("cb10w1f12,cb10w1o1f17,cb10w1o5f5", "y:0", null, "8,0", "24", "25"));
+        return Made.kept(Due.dug("cb10w1f12,cb10w1o1f17,cb10w1o5f5", "y:0", null, "8,0", "24", "25"));
     }
 
     private static void banksRefused() {
@@ -481,6 +481,9 @@ public final class WorkEdgesTest {
         E.due("35 at 5 by 30", banked().banks(1, 5, 30, 5), -1);
         E.due("36 above 5 by 30", banked().banks(2, 5, 30, 5), 0);
         E.due("0 higher", banked().banks(0, 0, 0, 0), 0);
+        DitchOpen near = Due.dug("cb10w1f18,cb10w1o1f99", "y:0", null, "8");
+        E.due("19 above 18 by 0", near.banks(0, 0, 0, 0), 0);
+        E.due("19 at 18 by 1", near.banks(0, 0, 1, 0), -1);
         E.of(39, "FIELDS above 99");
         DitchOpen x = Due.dug("cb99w1f99,cb99w1o1f99", "y:0", null, "9");
         // Level 99, mud 1, water 9: 109.
@@ -515,6 +518,7 @@ public final class WorkEdgesTest {
         // Levels 12 then, 20 behind the rain; mud 2.
         E.due("harm there was", x.owner(5, 0), 1);
         E.due("as it stands", x.rise(0, 0), 9);
+        E.due("of whom there was some", x.rise(0, 5), 16);
         E.of(40, "its FIELDS alone");
         E.due("the lower of its two", Due.dug("cf50,cf45,cf40o1", "y:0", null, "3").rise(0, 0), 6);
         E.due("the other's", Due.dug("cf50,cf45,cf40o1", "y:0", null, "3").rise(0, 1), 11);
