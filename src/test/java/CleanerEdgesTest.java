@@ -118,7 +118,22 @@ public final class CleanerEdgesTest {
         }
     }
 
+    /** Reeds of one owner keep the head's water: a rain of 5 (0) brings harm 1 if they are cleaned, none if not. */
+    private static DitchOpen grown() {
+        DitchOpen x = Due.dug("tb50w1f99,tb0w1f7", "y:r=0?99;y:0", null, "5", "5,0");
+        x.set(1, 0);
+        x.set(2, 1);
+        x.day(0);
+        x.shut(1, true);
+        return Made.kept(x);
+    }
+
     private static void firstTies() {
+        E.of(19, "the greatest told, though without CLEANING there is less HARM");
+        E.changesNothing("none cleans", CleanerEdgesTest::grown, 0, x -> x.tried(0, 0, -1));
+        E.changesNothing("the one cleans", CleanerEdgesTest::grown, 1, x -> x.tried(0, 1, -1));
+        E.changesNothing("one behind the greatest", CleanerEdgesTest::grown, 0, x -> x.tried(0, 2, -1));
+        E.changesNothing("first", CleanerEdgesTest::grown, 0, x -> x.first(0));
         E.of(19, "of several the lowest");
         E.due("0 and 2 alike", still().first(0), 0);
         E.due("1 and 2 alike", Made.still("cb0w1f12,cb0w1o1f9,cb0w1o2f9", "0").first(0), 1);
@@ -168,6 +183,11 @@ public final class CleanerEdgesTest {
         // Level 18: only ahead of day 0 no day is wet.
         E.due("ahead of day 0", x.when(1, 0), 0);
         E.due("none then", x.when(1, 1), 0);
+        E.of(20, "a DAY of the RAIN, though without CLEANING there is less HARM");
+        E.changesNothing("of one day", CleanerEdgesTest::grown, 0, y -> y.when(0, 0));
+        E.changesNothing("of one day, harm", CleanerEdgesTest::grown, 1, y -> y.when(0, 1));
+        E.changesNothing("the last of two", CleanerEdgesTest::grown, 1, y -> y.when(1, 0));
+        E.changesNothing("the last of two, harm", CleanerEdgesTest::grown, 1, y -> y.when(1, 1));
         E.of(20, "RAINS of 30 DAYS");
         x = Due.dug("cb0w9f99,cb0w9f91", "y:0", null, "1" + ",1".repeat(29));
         x.set(1, 3);
