@@ -93,14 +93,14 @@ public final class DitchOpen {
     private boolean isRead(int sort) {
         tape.rewind();
         if (sort == DITCH) {
-            Ditch slot = ditchSlot(kept[DITCH]);
+            Ditch slot = ditchSlot(keptOf(DITCH));
             return slot != null && slot.readFrom(tape);
         }
         if (sort == LAW) {
-            Law slot = lawSlot(kept[LAW]);
+            Law slot = lawSlot(keptOf(LAW));
             return slot != null && slot.readFrom(tape);
         }
-        Rain slot = rainSlot(kept[RAIN]);
+        Rain slot = rainSlot(keptOf(RAIN));
         return slot != null && slot.readFrom(tape);
     }
 
@@ -117,15 +117,15 @@ public final class DitchOpen {
     }
 
     private Ditch findDitch(int n) {
-        return n < kept[DITCH] ? ditchSlot(n) : null;
+        return n < keptOf(DITCH) ? ditchSlot(n) : null;
     }
 
     private Law findLaw(int n) {
-        return n < kept[LAW] ? lawSlot(n) : null;
+        return n < keptOf(LAW) ? lawSlot(n) : null;
     }
 
     private Rain findRain(int n) {
-        return n < kept[RAIN] ? rainSlot(n) : null;
+        return n < keptOf(RAIN) ? rainSlot(n) : null;
     }
 
     /** The RAIN by which what is dug can be asked; null: no such RAIN, or nothing dug. */
@@ -135,6 +135,10 @@ public final class DitchOpen {
 
     private boolean isSort(int sort) {
         return sort >= 0 && sort < kept.length && sort < MOST_TEXTS.length;
+    }
+
+    private int keptOf(int sort) {
+        return isSort(sort) ? kept[sort] : 0;
     }
 
     private static boolean isIn(int value, int least, int most) {
@@ -600,8 +604,8 @@ public final class DitchOpen {
         }
 
         int tells(int reach, int what) {
-            boolean is = reach >= 0 && reach < reaches && reach < told.length && what >= 0 && what < USUAL.length;
-            return is ? told[reach][what] : NONE;
+            boolean isReach = reach >= 0 && reach < reaches && reach < told.length;
+            return isReach && what >= 0 && what < told[reach].length ? told[reach][what] : NONE;
         }
 
         boolean readFrom(Tape tape) {
@@ -718,7 +722,7 @@ public final class DitchOpen {
         }
 
         private void add(int sign, int number) {
-            if (size < signs.length) {
+            if (size < signs.length && size < numbers.length) {
                 signs[size] = sign;
                 numbers[size] = number;
                 size++;
@@ -874,7 +878,7 @@ public final class DitchOpen {
             int top = 0;
             // Signs up to here are passed over: the CONDITION of their CLAUSE does not hold.
             int over = NONE;
-            for (int i = 0; i < size && i < signs.length; i++) {
+            for (int i = 0; i < size && i < signs.length && i < numbers.length; i++) {
                 int sign = signs[i];
                 if (i <= over) {
                     continue;
@@ -1710,21 +1714,23 @@ public final class DitchOpen {
             for (int set = Math.max(0, from); set < to && set < harm.length; set++) {
                 // Who has nothing to CLEAN changes nothing by it: the same HARM was noted already.
                 int same = set & able;
-                boolean noted = same >= from && same < set;
-                if (!noted) {
+                boolean isNoted = same >= from && same < set;
+                if (!isNoted) {
                     trial.goApart(stand, set, rain);
                 }
-                for (int owner = 0; owner < OWNERS; owner++) {
-                    harm[set][owner] = noted ? harm[same][owner] : trial.harmOf(owner) - stand.harmOf(owner);
+                for (int owner = 0; owner < harm[set].length; owner++) {
+                    harm[set][owner] = isNoted ? noted(same, owner) : trial.harmOf(owner) - stand.harmOf(owner);
                 }
             }
         }
 
+        private int noted(int set, int owner) {
+            boolean isSet = set >= 0 && set < harm.length;
+            return isSet && owner >= 0 && owner < harm[set].length ? harm[set][owner] : 0;
+        }
+
         int haveOf(int set, int owner) {
-            if (set < 0 || set >= harm.length || owner < 0 || owner >= OWNERS) {
-                return HIDDEN;
-            }
-            return -harm[set][owner] * price - paidBy(set, owner);
+            return -noted(set, owner) * price - paidBy(set, owner);
         }
 
         private int paidBy(int set, int owner) {
@@ -1878,12 +1884,12 @@ public final class DitchOpen {
             if (men < 1 || men > MOST_MEN || men > reaches || i < NONE || i >= men) {
                 return NONE;
             }
-            for (int rows = 1; rows <= men; rows++) {
-                for (int from = 0; from <= reaches - rows; from++) {
+            for (int rows = 1; rows <= men && rows < least.length; rows++) {
+                for (int from = 0; from <= reaches - rows && from < least[rows].length; from++) {
                     least[rows][from] = leastIn(rows, from);
                 }
             }
-            return i == NONE ? least[men][0] : beginOf(i, men);
+            return i == NONE ? leastOf(men, 0) : beginOf(i, men);
         }
 
         private void sumUp(Dug stand) {
@@ -1897,21 +1903,30 @@ public final class DitchOpen {
             }
         }
 
+        private int workOf(int from, int to) {
+            return from >= 0 && from <= to && to < ahead.length ? ahead[to] - ahead[from] : 0;
+        }
+
+        private int leastOf(int rows, int from) {
+            boolean isRows = rows >= 0 && rows < least.length;
+            return isRows && from >= 0 && from < least[rows].length ? least[rows][from] : 0;
+        }
+
         private int leastIn(int rows, int from) {
-            int best = ahead[reaches] - ahead[from];
+            int best = workOf(from, reaches);
             for (int to = from + 1; rows > 1 && to <= reaches - rows + 1; to++) {
-                best = Math.min(best, Math.max(ahead[to] - ahead[from], least[rows - 1][to]));
+                best = Math.min(best, Math.max(workOf(from, to), leastOf(rows - 1, to)));
             }
             return best;
         }
 
         /** Each row is as short as it can be while the rows behind it stay within the least. */
         private int beginOf(int row, int men) {
-            int most = least[men][0];
+            int most = leastOf(men, 0);
             int begin = 0;
             for (int i = 1; i <= row; i++) {
                 begin++;
-                while (begin < reaches && least[men - i][begin] > most) {
+                while (begin < reaches && leastOf(men - i, begin) > most) {
                     begin++;
                 }
             }

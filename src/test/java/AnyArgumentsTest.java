@@ -14,6 +14,13 @@ public final class AnyArgumentsTest {
 
     public static void main(String[] args) {
         Due d = new Due();
+        for (int run = 0; run < 60; run++) {
+            d.due("run " + run + " threw", threw(new DitchOpen(), new Draws(5000 + run)), false);
+        }
+        d.finish("AnyArgumentsTest");
+    }
+
+    private static List<Method> face() {
         List<Method> face = new ArrayList<>();
         for (Method m : DitchOpen.class.getDeclaredMethods()) {
             if (java.lang.reflect.Modifier.isPublic(m.getModifiers())) {
@@ -21,14 +28,12 @@ public final class AnyArgumentsTest {
             }
         }
         face.sort(Comparator.comparing(Method::getName));
-        for (int run = 0; run < 60; run++) {
-            d.due("run " + run + " threw", threw(face, new Draws(5000 + run)), false);
-        }
-        d.finish("AnyArgumentsTest");
+        return face;
     }
 
-    private static boolean threw(List<Method> face, Draws draws) {
-        DitchOpen x = new DitchOpen();
+    /** Whether one of so many drawn calls throws what it may not. */
+    static boolean threw(DitchOpen x, Draws draws) {
+        List<Method> face = face();
         for (int call = 0; call < 700; call++) {
             if (draws.oneIn(25)) {
                 int sort = draws.below(3);

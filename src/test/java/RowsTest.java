@@ -1,0 +1,94 @@
+import java.lang.reflect.Array;
+import java.lang.reflect.Field;
+import java.lang.reflect.Modifier;
+import java.util.ArrayList;
+import java.util.LinkedHashSet;
+import java.util.List;
+import java.util.Set;
+
+/**
+ * Each index is looked at against the row that it is used on: with any one row inside cut short, in all
+ * objects that have it, no call throws. What calls answer then is free.
+ */
+public final class RowsTest {
+    private static final Due D = new Due();
+
+    public static void main(String[] args) throws IllegalAccessException {
+        Set<Field> rows = new LinkedHashSet<>();
+        rowsOf(new DitchOpen(), rows, new ArrayList<>());
+        for (Field row : rows) {
+            for (int run = 0; run < 16; run++) {
+                cut(row, run, false);
+                if (row.getType().getComponentType().isArray()) {
+                    cut(row, run, true);
+                }
+            }
+        }
+        D.due("rows found", rows.size() >= 15, true);
+        D.finish("RowsTest");
+    }
+
+    private static void cut(Field row, int run, boolean inner) throws IllegalAccessException {
+        int eighths = run % 8;
+        DitchOpen x = new DitchOpen();
+        List<Object> all = new ArrayList<>();
+        rowsOf(x, new LinkedHashSet<>(), all);
+        for (Object owner : all) {
+            if (owner.getClass() == row.getDeclaringClass()) {
+                Object old = row.get(owner);
+                if (inner) {
+                    for (int i = 0; i < Array.getLength(old); i++) {
+                        Array.set(old, i, shorter(Array.get(old, i), eighths));
+                    }
+                } else {
+                    row.set(owner, shorter(old, eighths));
+                }
+            }
+        }
+        String name = row.getDeclaringClass().getSimpleName() + "." + row.getName() + (inner ? "[]" : "");
+        D.due(name + " cut to " + eighths + " eighths threw", threw(x, new Draws(run + 7)), false);
+    }
+
+    private static boolean threw(DitchOpen x, Draws draws) {
+        try {
+            return AnyArgumentsTest.threw(x, draws);
+        } catch (RuntimeException e) {
+            System.out.println("threw " + e);
+            return true;
+        }
+    }
+
+    private static Object shorter(Object row, int eighths) {
+        int length = Array.getLength(row) * eighths / 8;
+        Object cut = Array.newInstance(row.getClass().getComponentType(), length);
+        for (int i = 0; i < length; i++) {
+            Array.set(cut, i, Array.get(row, i));
+        }
+        return cut;
+    }
+
+    /** All rows of an object and of those in it, and all these objects. */
+    private static void rowsOf(Object owner, Set<Field> rows, List<Object> all) throws IllegalAccessException {
+        if (owner == null || all.contains(owner)) {
+            return;
+        }
+        all.add(owner);
+        for (Field f : owner.getClass().getDeclaredFields()) {
+            if (Modifier.isStatic(f.getModifiers()) || f.getType().isPrimitive()) {
+                continue;
+            }
+            f.setAccessible(true);
+            Object held = f.get(owner);
+            if (!f.getType().isArray()) {
+                rowsOf(held, rows, all);
+                continue;
+            }
+            rows.add(f);
+            for (int i = 0; !f.getType().getComponentType().isPrimitive() && i < Array.getLength(held); i++) {
+                if (!f.getType().getComponentType().isArray()) {
+                    rowsOf(Array.get(held, i), rows, all);
+                }
+            }
+        }
+    }
+}
