@@ -17,7 +17,7 @@ public final class RowsTest {
         Set<Field> rows = new LinkedHashSet<>();
         rowsOf(new DitchOpen(), rows, new ArrayList<>());
         for (Field row : rows) {
-            for (int run = 0; run < 16; run++) {
+            for (int run = 0; run < 48; run++) {
                 cut(row, run, false);
                 if (row.getType().getComponentType().isArray()) {
                     cut(row, run, true);
@@ -46,16 +46,30 @@ public final class RowsTest {
             }
         }
         String name = row.getDeclaringClass().getSimpleName() + "." + row.getName() + (inner ? "[]" : "");
-        D.due(name + " cut to " + eighths + " eighths threw", threw(x, new Draws(run + 7)), false);
+        D.due(name + " cut to " + eighths + " eighths threw", threw(x, run), false);
     }
 
-    private static boolean threw(DitchOpen x, Draws draws) {
+    private static boolean threw(DitchOpen x, int run) {
         try {
-            return AnyArgumentsTest.threw(x, draws);
+            if (run % 16 < 8) {
+                plainest(x);
+            }
+            return AnyArgumentsTest.threw(x, new Draws(run + 7));
         } catch (RuntimeException e) {
             System.out.println("threw " + e);
             return true;
         }
+    }
+
+    /** Texts so short that most rows cut still hold them. */
+    private static void plainest(DitchOpen x) {
+        String[] texts = {"c,c", "y:h", "5"};
+        for (int sort = 0; sort < texts.length; sort++) {
+            Due.feed(x, texts[sort]);
+            x.text(sort);
+            x.end(0);
+        }
+        x.dig(0, 0, DitchOpen.NONE, 5L);
     }
 
     private static Object shorter(Object row, int eighths) {
